@@ -1,0 +1,53 @@
+/** Counts answers that are not the ones that are due, and prints each of them. */
+final class Due {
+    static final int NONE = -1000000, BAD = -1000001, FULL = -1000003;
+    static final int NULL_FOUND = -1000011, PLACE_FOUND = -1000012, KIND_FOUND = -1000013;
+    static final int SIZE_FOUND = -1000014, STORE_FOUND = -1000015;
+    static final int SPENT = -1000900;
+
+    private static int wrong = 0;
+    private static int seen = 0;
+
+    private Due() {
+    }
+
+    static void due(String what, long got, long want) {
+        seen++;
+        if (got != want) {
+            wrong++;
+            System.out.println(what + " answered " + got + ", due is " + want);
+        }
+    }
+
+    static void holds(String what, boolean so) {
+        due(what, so ? 1 : 0, 1);
+    }
+
+    static int wrong() {
+        return wrong;
+    }
+
+    static void end() {
+        System.out.println(seen + " answers, " + wrong + " not as due");
+        if (wrong != 0 || seen == 0) {
+            System.exit(1);
+        }
+    }
+
+    /** Feeds a text, eight bytes at a time. */
+    static void feedAll(FarBoards x, String text) {
+        for (int i = 0; i < text.length(); i += 8) {
+            String part = text.substring(i, Math.min(text.length(), i + 8));
+            long w = 0;
+            for (int k = 0; k < part.length(); k++) {
+                w = w << 8 | part.charAt(k) & 255;
+            }
+            x.feed(w, part.length());
+        }
+    }
+
+    static int runText(FarBoards x, String text) {
+        feedAll(x, text);
+        return x.run();
+    }
+}
