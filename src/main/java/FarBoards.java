@@ -541,9 +541,10 @@ public final class FarBoards {
             return ring >= 0 && ring <= rings;
         }
 
-        /** The CELL at a side; NONE at an EDGE. */
+        /** The CELL at a side; NONE at an EDGE. Its own look at the index spares the inner loops two calls. */
         int beyond(int cell, int side) {
-            return hasSide(cell, side) ? atSides[cell * MOST_SIDES + side] : NONE;
+            int index = cell * MOST_SIDES + side;
+            return index >= 0 && index < atSides.length ? atSides[index] : NONE;
         }
 
         int sideTo(int cell, int other) {
@@ -842,7 +843,7 @@ public final class FarBoards {
 
     /** THE TAPE: its bytes, the first FAULT in them, and the acts that they tell. */
     private static final class Tape {
-        static final int MOST_BYTES = 300, MOST_ACTS = 2000, MOST_DEEP = 4, MOST_OFTEN = 20;
+        static final int MOST_BYTES = 300, MOST_ACTS = 2000, MOST_DEEP = 4, MOST_OFTEN = 20, MOST_FIGURES = 2;
 
         final byte[] acts = new byte[MOST_ACTS];
         private final byte[] bytes = new byte[MOST_BYTES];
@@ -866,7 +867,7 @@ public final class FarBoards {
         int check() {
             int depth = 0;
             boolean counted = false;
-            for (int at = 0; at < length; at += widthAt(at)) {
+            for (int at = 0; at < length; at += Math.max(1, figuresFrom(at))) {
                 if (isBlank(bytes[at])) {
                     continue;
                 }
@@ -887,7 +888,7 @@ public final class FarBoards {
             int count = 0;
             int depth = 0;
             int often = 1;
-            for (int at = 0; at < length && count <= MOST_ACTS; at += widthAt(at)) {
+            for (int at = 0; at < length && count <= MOST_ACTS; at += Math.max(1, figuresFrom(at))) {
                 byte sign = bytes[at];
                 if (isBlank(sign)) {
                     continue;
@@ -960,25 +961,25 @@ public final class FarBoards {
         }
 
         private int numberFault(int at, boolean counted) {
-            if (counted || widthAt(at) > 2) {
+            if (counted || figuresFrom(at) > MOST_FIGURES) {
                 return 1;
             }
             int number = numberAt(at);
             return number >= 1 && number <= MOST_OFTEN ? 0 : 2;
         }
 
-        /** Of a NUMBER all its figures, of all else one byte. */
-        private int widthAt(int at) {
+        /** How many figures stand from a place on without a gap. */
+        private int figuresFrom(int at) {
             int end = at;
             while (end < length && isFigure(bytes[end])) {
                 end++;
             }
-            return Math.max(1, end - at);
+            return end - at;
         }
 
         private int numberAt(int at) {
             int number = 0;
-            for (int i = at; i < at + 2 && i < length && isFigure(bytes[i]); i++) {
+            for (int i = at; i < at + MOST_FIGURES && i < length && isFigure(bytes[i]); i++) {
                 number = number * 10 + bytes[i] - '0';
             }
             return number;

@@ -126,6 +126,9 @@ public final class AskedTest {
         x.live(3, 1);
         x.live(4, 1);
         Due.due("35 that live", x.count(7), 2);
+        x.live(0, 1);
+        x.live(28, 1);
+        Due.due("35 that live, the first and the last", x.count(7), 4);
         x.feed(0, 3);
         Due.due("35 bytes", x.count(8), 3);
     }

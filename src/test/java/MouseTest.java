@@ -112,6 +112,8 @@ public final class MouseTest {
         acts(x, "20(20(20(20())))", 0);
         acts(x, "f l\nr b", 4);
         acts(x, "20f", 20);
+        acts(x, "1f", 1);
+        acts(x, "1(f)1l", 2);
         acts(x, "02f 2 0".substring(0, 3), 2);
         acts(x, "2 f", 2);
         acts(x, "3\n(\nf 2l )b", 10);
@@ -204,6 +206,9 @@ public final class MouseTest {
         Due.due("19 the latest one", x.fault(), 2);
         Due.runText(x, "(((((");
         Due.due("19 three", x.fault(), 3);
+        Due.runText(x, "ff9");
+        Due.due("18 what was on the tape before is gone", Due.runText(x, "f2"), -1000102);
+        Due.due("19 the end", x.fault(), 1);
         StringBuilder text = new StringBuilder();
         for (int i = 0; i < 299; i++) {
             text.append(' ');

@@ -24,7 +24,8 @@ public final class SheetsTest {
         Due.due("2 n 0", x.sheet(0, 0, 0), 0);
         Due.due("2 n 60", x.sheet(7, 2, 60), 60);
         Due.due("2 both are there", x.count(0), 2);
-        x.set(7, 59, 5);
+        x.set(7, 59, 3);
+        x.set(7, 0, 3);
         Due.due("2 SIZE leaves what is there", x.sheet(7, 2, -1), Due.SIZE_FOUND);
         x.sheet(6, 2, 1);
         Due.due("2 as it was", x.copy(7, 59, 6, 0, 1), 1);
@@ -33,7 +34,9 @@ public final class SheetsTest {
         Due.due("2 ITEMS are 0 at first", x.paints(0, 6, 0, 1), 1);
         x.paint(0, 3);
         x.paints(0, 7, 59, 1);
-        Due.due("2 0 again, told by a colour", x.paint(0, 0), 0);
+        Due.due("2 0 again, told by a colour", x.paint(0, 3), 0);
+        x.paints(0, 7, 0, 1);
+        Due.due("2 the first one, too", x.paint(0, 0), 0);
     }
 
     private static void setting() {
