@@ -337,8 +337,7 @@ public final class FarBoards {
         if (!ground.has(cell) || what < Asks.SIZE || what > Asks.MARK) {
             return BAD;
         }
-        asks.traced = 0;
-        return asks.answer(cell, what, 0);
+        return asks.answerAnew(cell, what);
     }
 
     public int trace(int i) {
@@ -1168,8 +1167,13 @@ public final class FarBoards {
             this.ground = ground;
         }
 
+        int answerAnew(int cell, int what) {
+            traced = 0;
+            return answer(cell, what, 0);
+        }
+
         /** No KIND's BODIES ask one another in a circle; the guard on the depth only makes that plain. */
-        int answer(int cell, int what, int depth) {
+        private int answer(int cell, int what, int depth) {
             if (depth >= MOST_DEEP) {
                 return 0;
             }

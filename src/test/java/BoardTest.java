@@ -8,10 +8,9 @@ public final class BoardTest {
         hexagons();
         for (int p = 6; p <= 10; p++) {
             for (int r = 0; r <= 5; r++) {
-                FarBoards x = new FarBoards();
-                if (x.board(p, r) != Due.FULL) {
-                    corners(x, p, r);
-                    ringsAndParents(x, p, r);
+                if (new FarBoards().board(p, r) != Due.FULL) {
+                    corners(p, r);
+                    ringsAndParents(p, r);
                 }
             }
         }
@@ -136,9 +135,10 @@ public final class BoardTest {
     }
 
     /** Three CELLS at each corner, all turning one way round. */
-    private static void corners(FarBoards x, int p, int r) {
-        int cells = x.count(1);
+    private static void corners(int p, int r) {
+        int cells = Edges.on(p, r).count(1);
         for (int c = 0; c < cells; c++) {
+            FarBoards x = Edges.on(p, r);
             String at = " of cell " + c + " on " + p + "/" + r;
             for (int s = 0; s < p; s++) {
                 int a = x.side(c, s);
@@ -156,12 +156,14 @@ public final class BoardTest {
         }
     }
 
-    private static void ringsAndParents(FarBoards x, int p, int r) {
+    private static void ringsAndParents(int p, int r) {
         int c = 0;
+        FarBoards x = Edges.on(p, r);
         for (int ring = 0; ring <= r; ring++) {
             int size = x.grown(p, ring, 0);
             int paired = 0;
             for (int place = 0; place < size; place++) {
+                x = Edges.on(p, r);
                 Due.due("7 ring", x.cell(c, 0), ring);
                 Due.due("7 place", x.cell(c, 4), place);
                 int parents = x.cell(c, 1);
@@ -196,6 +198,7 @@ public final class BoardTest {
         }
         java.math.BigInteger modulus = java.math.BigInteger.valueOf(1000000007L);
         for (int p = 6; p <= 10; p++) {
+            x = new FarBoards();
             // Ring sizes keep a(n + 1) = (p - 4) a(n) - a(n - 1), another way to the same numbers.
             java.math.BigInteger before = java.math.BigInteger.valueOf(p);
             java.math.BigInteger size = java.math.BigInteger.valueOf((long) p * (p - 4));

@@ -108,10 +108,10 @@ public final class ColoursTest {
 
     /** By trying each colour of each CELL, none passed over. */
     private static void counting(int p, int r) {
-        FarBoards x = new FarBoards();
-        x.board(p, r);
+        int cells = Edges.on(p, r).count(1);
         for (int k = 1; k <= 4; k++) {
-            for (int m = 1; m <= Math.min(16, x.count(1)); m++) {
+            for (int m = 1; m <= Math.min(16, cells); m++) {
+                FarBoards x = Edges.on(p, r);
                 String of = "(" + m + ", " + k + ") on " + p + "/" + r;
                 boolean[][] beside = new boolean[m][m];
                 for (int a = 0; a < m; a++) {

@@ -88,11 +88,11 @@ public final class LifeTest {
 
     /** A turn keeps what lies at sides, turns add up, and the sets are found by following the turns. */
     private static void turns(int p, int r) {
-        FarBoards x = new FarBoards();
-        int cells = x.board(p, r);
+        int cells = Edges.on(p, r).count(1);
         String on = " on " + p + "/" + r;
         for (int t = 0; t < p; t++) {
             for (int c = 0; c < cells; c++) {
+                FarBoards x = Edges.on(p, r);
                 int d = x.turned(c, t);
                 Due.due("28 ring" + on, x.cell(d, 0), x.cell(c, 0));
                 Due.due("28 turns add up" + on, x.turned(d, (p - t) % p), c);
@@ -106,10 +106,12 @@ public final class LifeTest {
                 }
             }
         }
+        FarBoards x = Edges.on(p, r);
         Due.due("28 the first cell stays" + on, x.turned(0, 1), 0);
         int sets = 0;
         for (int ring = 0, c = 0; ring <= r; ring++) {
             for (; c < cells && x.cell(c, 0) == ring; c++) {
+                x = Edges.on(p, r);
                 boolean least = true;
                 for (int t = 0; t < p; t++) {
                     least = least && x.turned(c, t) >= c;

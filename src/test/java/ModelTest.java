@@ -2,13 +2,16 @@ import java.util.Random;
 
 /** Long runs of calls, the same each time, that the class and the model must answer alike; promises 1 to 36. */
 public final class ModelTest {
-    private static final int RUNS = 300;
+    private static final int RUNS = 1000;
     private static final int CALLS = 512;
     private static final int METHODS = 35;
+    /** What one round may need at most: a text, byte by byte, and what is asked behind it. */
+    private static final int DEAREST = 160;
 
     private final Random random;
     private final FarBoards x = new FarBoards();
     private final Model m = new Model();
+    private int calls = 0;
 
     private ModelTest(int seed) {
         random = new Random(seed);
@@ -17,9 +20,10 @@ public final class ModelTest {
     public static void main(String[] args) {
         for (int seed = 0; seed < RUNS && Due.wrong() < 20; seed++) {
             ModelTest test = new ModelTest(seed);
-            for (int i = 0; i < CALLS; i++) {
-                test.call("run " + seed + ", call " + i + ": ");
+            while (test.calls <= CALLS - DEAREST) {
+                test.call("run " + seed + ", call " + test.calls + ": ");
             }
+            Due.holds("run " + seed + " took " + test.calls + " calls", test.calls <= CALLS);
         }
         Due.end();
     }
@@ -36,11 +40,11 @@ public final class ModelTest {
     }
 
     private int cell() {
-        return pick(0, x.count(1) - 1);
+        return pick(0, m.count(1) - 1);
     }
 
     private int side() {
-        return pick(0, x.count(3) - 1);
+        return pick(0, m.count(3) - 1);
     }
 
     private int sheet() {
@@ -61,7 +65,9 @@ public final class ModelTest {
         }
     }
 
-    private static void same(String call, int got, int want) {
+    /** How many CELLS, RINGS and SIDES there are the model tells, so that every call of the class goes through here. */
+    private void same(String call, int got, int want) {
+        calls++;
         Due.due(call, got, want);
     }
 
@@ -188,7 +194,7 @@ public final class ModelTest {
         int a = cell();
         int t = side();
         int k = pick(1, 4);
-        int most = pick(1, Math.min(16, x.count(1)));
+        int most = pick(1, Math.min(16, m.count(1)));
         String of = where + "of " + a + " " + t + " " + k + " " + most;
         switch (method) {
             case 18:
@@ -208,7 +214,7 @@ public final class ModelTest {
                 break;
             case 25: stepping(where); break;
             case 26:
-                int ring = random.nextInt(4) == 0 ? Due.NONE : pick(0, x.count(2));
+                int ring = random.nextInt(4) == 0 ? Due.NONE : pick(0, m.count(2));
                 same(of + " living " + ring, x.living(ring), m.living(ring));
                 break;
             case 27: same(of + " turned", x.turned(a, t), m.turned(a, t)); break;
@@ -229,12 +235,10 @@ public final class ModelTest {
         int stay = pick(0, 2047);
         int n = random.nextInt(3) > 0 ? pick(1, 3) : pick(1, 50);
         same(where + "steps " + born + " " + stay + " " + n, x.steps(born, stay, n), m.steps(born, stay, n));
-        for (int c = 0; c < x.count(1); c++) {
-            int lives = x.live(c, 0);
-            x.live(c, lives);
-            int due = m.live(c, 0);
-            m.live(c, due);
-            same(where + "life of " + c, lives, due);
+        for (int k = 0; k < 40; k++) {
+            int c = random.nextInt(m.count(1));
+            int lives = random.nextInt(2);
+            same(where + "life of " + c, x.live(c, lives), m.live(c, lives));
         }
     }
 
@@ -242,7 +246,7 @@ public final class ModelTest {
         int a = cell();
         switch (method) {
             case 29:
-                int ring = pick(0, x.count(2));
+                int ring = pick(0, m.count(2));
                 same(where + "orbits " + ring, x.orbits(ring), m.orbits(ring));
                 break;
             case 30: same(where + "kind " + a, x.kind(a), m.kind(a)); break;

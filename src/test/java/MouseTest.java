@@ -76,10 +76,9 @@ public final class MouseTest {
 
     private static void stepping() {
         for (int p = 6; p <= 10; p++) {
-            FarBoards x = new FarBoards();
-            x.board(p, 2);
-            int cells = x.count(1);
+            int cells = Edges.on(p, 2).count(1);
             for (int c = 0; c < cells; c++) {
+                FarBoards x = Edges.on(p, 2);
                 for (int side = 0; side < p; side++) {
                     x.put(c, side);
                     Due.due("18 f", Due.runText(x, "f"), 1);
