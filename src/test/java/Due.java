@@ -1,5 +1,11 @@
+import java.util.EnumMap;
+import java.util.Map;
+
 /** Counts answers that are not the ones that are due, and prints each of them. */
 final class Due {
+    /** What the test of a promise has: where a call takes no numbers, wrong ones are such as others refuse ahead of it. */
+    enum Part { ORDINARY_USE, EDGES, WRONG_NUMBERS }
+
     static final int NONE = -1000000, BAD = -1000001, FULL = -1000003;
     static final int NULL_FOUND = -1000011, PLACE_FOUND = -1000012, KIND_FOUND = -1000013;
     static final int SIZE_FOUND = -1000014, STORE_FOUND = -1000015;
@@ -7,12 +13,15 @@ final class Due {
 
     private static int wrong = 0;
     private static int seen = 0;
+    private static Part part = null;
+    private static final Map<Part, Integer> SEEN_IN = new EnumMap<>(Part.class);
 
     private Due() {
     }
 
     static void due(String what, long got, long want) {
         seen++;
+        if (part != null) SEEN_IN.merge(part, 1, Integer::sum);
         if (got != want) {
             wrong++;
             System.out.println(what + " answered " + got + ", due is " + want);
@@ -21,6 +30,11 @@ final class Due {
 
     static void holds(String what, boolean so) {
         due(what, so ? 1 : 0, 1);
+    }
+
+    /** What is due from here on is of this part. */
+    static void part(Part next) {
+        part = next;
     }
 
     static int wrong() {
@@ -32,6 +46,17 @@ final class Due {
         if (wrong != 0 || seen == 0) {
             System.exit(1);
         }
+    }
+
+    /** The end of a promise's test: none of its parts may be without an answer. */
+    static void endOfPromise() {
+        part = null;
+        for (Part each : Part.values()) {
+            int answers = SEEN_IN.getOrDefault(each, 0);
+            System.out.print(each + " " + answers + ", ");
+            holds("a test of " + each, answers > 0);
+        }
+        end();
     }
 
     /** Feeds a text, eight bytes at a time. */

@@ -22,12 +22,19 @@ public final class FaceTest {
         "count(int)", "status()",
     };
 
+    /** What the interface says ahead of calls, and the first of these. */
+    private static final String[][] GROUPS = {
+        {"sheets", "sheet"}, {"the board", "board"}, {"ways", "far"}, {"the mouse", "put"}, {"colours", "paint"},
+        {"life", "live"}, {"asked", "kind"},
+    };
+
     private static final Set<String> FIELD_TYPES = Set.of("int", "long", "boolean", "char", "String", "int[]",
         "long[]", "char[]", "byte[]");
 
     public static void main(String[] args) throws Exception {
         face();
         inside();
+        groups(Files.readString(Path.of("src/main/java/FarBoards.java")));
         String source = plain(Files.readString(Path.of("src/main/java/FarBoards.java")));
         words(source);
         lengths(source);
@@ -53,6 +60,23 @@ public final class FaceTest {
         Constructor<?>[] made = face.getDeclaredConstructors();
         Due.holds("one public constructor", made.length == 1 && Modifier.isPublic(made[0].getModifiers())
             && made[0].getParameterCount() == 0);
+    }
+
+    /** The calls stand in the document's order, behind what the interface says ahead of them. */
+    private static void groups(String source) {
+        int at = 0;
+        int group = 0;
+        for (String method : METHODS) {
+            String name = method.substring(0, method.indexOf('('));
+            if (group < GROUPS.length && GROUPS[group][1].equals(name)) {
+                at = source.indexOf("// ---- " + GROUPS[group][0] + "\n", at);
+                Due.holds("---- " + GROUPS[group][0] + " ahead of " + name, at >= 0);
+                group++;
+            }
+            at = source.indexOf("    public int " + name + "(", Math.max(0, at));
+            Due.holds(name + " in the document's order", at >= 0);
+        }
+        Due.due("what the interface says", group, GROUPS.length);
     }
 
     private static void inside() {

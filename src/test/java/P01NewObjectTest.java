@@ -1,13 +1,28 @@
 /** Promise 1, a new object: what is there "at first". */
 public final class P01NewObjectTest {
     public static void main(String[] args) {
+        Due.part(Due.Part.ORDINARY_USE);
+        ordinaryUse();
+        Due.part(Due.Part.EDGES);
         boardAtFirst();
         mouseAtFirst();
         sheetsMissingAtFirst();
         nothingAtFirst();
         objectsShareNothing();
         lastOfItsCalls();
-        Due.end();
+        Due.part(Due.Part.WRONG_NUMBERS);
+        beyondWhatIsThere();
+        Due.endOfPromise();
+    }
+
+    private static void ordinaryUse() {
+        FarBoards x = new FarBoards();
+        Due.due("1 CELL 0's first neighbour", x.side(0, 0), 1);
+        Due.due("1 one step", Due.runText(x, "f"), 1);
+        Due.due("1 over side 0 to CELL 1", x.mouse(0), 1);
+        Due.due("1 a SHEET", x.sheet(0, 0, 4), 4);
+        Due.due("1 a colour", x.paint(28, 2), 0);
+        Due.due("1 a CELL that lives", x.live(28, 1), 0);
     }
 
     /** "A BOARD of 7 SIDES, 2 RINGS" */
@@ -17,10 +32,18 @@ public final class P01NewObjectTest {
         Due.due("1 RINGS", x.count(2), 2);
         Due.due("1 CELLS", x.count(1), 29);
         Due.due("1 the last side of the last CELL", x.side(28, 6), 27);
-        Due.due("1 no side 7", x.side(28, 7), Due.BAD);
-        Due.due("1 no CELL 29", x.side(29, 0), Due.BAD);
         Due.due("1 RING 2", x.living(2), 0);
-        Due.due("1 no RING 3", x.living(3), Due.BAD);
+    }
+
+    /** What is one beyond 7 SIDES, 2 RINGS, 29 CELLS and no SHEETS is not there; a new object stays as it is. */
+    private static void beyondWhatIsThere() {
+        Twins.Calls nothing = x -> { };
+        Twins.bad("1 no side 7", nothing, x -> x.side(28, 7));
+        Twins.bad("1 no CELL 29", nothing, x -> x.side(29, 0));
+        Twins.bad("1 no CELL -1", nothing, x -> x.cell(-1, 0));
+        Twins.bad("1 no RING 3", nothing, x -> x.living(3));
+        Twins.bad("1 no TURN by 7", nothing, x -> x.turned(1, 7));
+        Twins.found("1 no SHEET 0", nothing, x -> x.drop(0), 1);
     }
 
     /** "THE MOUSE at CELL 0, turned to side 0." */

@@ -1,18 +1,33 @@
 /** Promise 2, sheet: SHEETS 0 to 7, LANES 0 to 2, 0 to 60 ITEMS. */
 public final class P02SheetTest {
     public static void main(String[] args) {
+        Due.part(Due.Part.ORDINARY_USE);
+        ordinaryUse();
+        Due.part(Due.Part.EDGES);
         sheetsFromFirstToLast();
-        noSuchSheet();
         lanesFromFirstToLast();
-        noSuchLane();
         itemsFromNoneToMost();
-        tooManyItems();
-        fewerThanNone();
-        refusalsInOrder();
         itemsAreZeroAtFirst();
         inPlaceOfWhatIsThere();
         neighboursStay();
-        Due.end();
+        Due.part(Due.Part.WRONG_NUMBERS);
+        noSuchSheet();
+        noSuchLane();
+        tooManyItems();
+        fewerThanNone();
+        refusalsInOrder();
+        Due.endOfPromise();
+    }
+
+    private static void ordinaryUse() {
+        FarBoards x = new FarBoards();
+        Due.due("2 twelve shorts", x.sheet(2, 1, 12), 12);
+        Due.due("2 three ints", x.sheet(4, 2, 3), 3);
+        Due.due("2 two SHEETS", x.count(0), 2);
+        Due.due("2 the last of twelve", x.set(2, 11, 500), 500);
+        Due.due("2 the last of three", x.set(4, 2, 70000), 70000);
+        Due.due("2 five bytes in place of twelve shorts", x.sheet(2, 0, 5), 5);
+        Due.due("2 two SHEETS still", x.count(0), 2);
     }
 
     /** "SHEETS 0 .. 7" */

@@ -1,16 +1,32 @@
 /** Promise 3, set: places of a SHEET, and the lowest bits of a number. */
 public final class P03SetTest {
     public static void main(String[] args) {
-        noSuchSheet();
-        missingSheet();
+        Due.part(Due.Part.ORDINARY_USE);
+        ordinaryUse();
+        Due.part(Due.Part.EDGES);
         placesFromFirstToLast();
-        noSuchPlace();
-        noPlaceWhereThereAreNoItems();
         lowestBitsOfBytes();
         lowestBitsOfShorts();
         allBitsOfInts();
+        Due.part(Due.Part.WRONG_NUMBERS);
+        noSuchSheet();
+        missingSheet();
+        noSuchPlace();
+        noPlaceWhereThereAreNoItems();
         refusalsInOrder();
-        Due.end();
+        Due.endOfPromise();
+    }
+
+    private static void ordinaryUse() {
+        FarBoards x = new FarBoards();
+        x.sheet(1, 0, 4);
+        Due.due("3 ITEM 0", x.set(1, 0, 2), 2);
+        Due.due("3 ITEM 3", x.set(1, 3, 1), 1);
+        Due.due("3 below 0", x.set(1, 2, -5), -5);
+        Due.due("3 another number", x.set(1, 2, 3), 3);
+        Due.due("3 all of them as colours", x.paints(8, 1, 0, 4), 4);
+        int[] want = {2, 0, 3, 1};
+        for (int i = 0; i < 4; i++) Due.due("3 ITEM " + i + " is", x.paint(8 + i, 0), want[i]);
     }
 
     /** "BAD: SHEET" */

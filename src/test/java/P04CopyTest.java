@@ -3,18 +3,34 @@ public final class P04CopyTest {
     private static final int MOST = Integer.MAX_VALUE, LEAST = Integer.MIN_VALUE;
 
     public static void main(String[] args) {
+        Due.part(Due.Part.ORDINARY_USE);
+        ordinaryUse();
+        Due.part(Due.Part.EDGES);
+        upToTheEnds();
+        noneAtTheEnds();
+        noItemsAtAll();
+        asTheyWereAhead();
+        Due.part(Due.Part.WRONG_NUMBERS);
         noSuchSheet();
         missingSheet();
         twoLanes();
         belowNone();
         beyondAnEnd();
         sumsThatLeaveInt();
-        upToTheEnds();
-        noneAtTheEnds();
-        noItemsAtAll();
-        asTheyWereAhead();
         refusalsInOrder();
-        Due.end();
+        Due.endOfPromise();
+    }
+
+    private static void ordinaryUse() {
+        FarBoards x = new FarBoards();
+        x.sheet(0, 0, 6);
+        x.sheet(1, 0, 4);
+        for (int i = 0; i < 6; i++) x.set(0, i, (i + 1) % 4);
+        Due.due("4 three ITEMS", x.copy(0, 1, 1, 0, 3), 3);
+        row("4 in b", x, 1, 0, 2, 3, 0, 0);
+        row("4 in a as they were", x, 0, 0, 1, 2, 3, 0, 1, 2);
+        Due.due("4 one ITEM back", x.copy(1, 1, 0, 5, 1), 1);
+        row("4 in a then", x, 0, 0, 1, 2, 3, 0, 1, 3);
     }
 
     /** "BAD: SHEETS", the one and the other. */

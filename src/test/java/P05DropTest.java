@@ -1,11 +1,25 @@
 /** Promise 5, drop. */
 public final class P05DropTest {
     public static void main(String[] args) {
-        noSuchSheet();
-        missingSheet();
+        Due.part(Due.Part.ORDINARY_USE);
+        ordinaryUse();
+        Due.part(Due.Part.EDGES);
         howManyItems();
         missingFromNowOn();
-        Due.end();
+        Due.part(Due.Part.WRONG_NUMBERS);
+        noSuchSheet();
+        missingSheet();
+        Due.endOfPromise();
+    }
+
+    private static void ordinaryUse() {
+        FarBoards x = new FarBoards();
+        x.sheet(3, 0, 7);
+        x.sheet(6, 2, 20);
+        Due.due("5 seven ITEMS", x.drop(3), 7);
+        Due.due("5 one SHEET is left", x.count(0), 1);
+        Due.due("5 twenty ITEMS", x.drop(6), 20);
+        Due.due("5 none is left", x.count(0), 0);
     }
 
     /** "BAD" */

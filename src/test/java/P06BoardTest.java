@@ -1,15 +1,30 @@
 /** Promise 6, board: six to ten SIDES, none to five RINGS, no more than 400 CELLS. */
 public final class P06BoardTest {
     public static void main(String[] args) {
+        Due.part(Due.Part.ORDINARY_USE);
+        ordinaryUse();
+        Due.part(Due.Part.EDGES);
         howManyCells();
+        asAtFirst();
+        nothingIsLeftOver();
+        ringNoughtAlone();
+        Due.part(Due.Part.WRONG_NUMBERS);
         noSuchSides();
         noSuchRings();
         moreThanMost();
         refusalsInOrder();
-        asAtFirst();
-        nothingIsLeftOver();
-        ringNoughtAlone();
-        Due.end();
+        Due.endOfPromise();
+    }
+
+    private static void ordinaryUse() {
+        FarBoards x = new FarBoards();
+        // RING 1 has 8; each of these has 8 - 4 - 1 OWN ones and one SHARED one: 32.
+        Due.due("6 eight SIDES, two RINGS", x.board(8, 2), 1 + 8 + 32);
+        Due.due("6 SIDES", x.count(3), 8);
+        Due.due("6 RINGS", x.count(2), 2);
+        Due.due("6 CELLS", x.count(1), 41);
+        Due.due("6 six SIDES, three RINGS", x.board(6, 3), 1 + 6 + 12 + 18);
+        Due.due("6 CELLS then", x.count(1), 37);
     }
 
     /** "THE BOARD of p SIDES (6 to 10 ..), RINGS r (0 to 5 ..), no more than 400 CELLS." */

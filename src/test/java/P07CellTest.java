@@ -1,14 +1,26 @@
 /** Promise 7, cell: the first and the last CELLS of RINGS, and every CELL of every board against the model. */
 public final class P07CellTest {
     public static void main(String[] args) {
-        noSuchCell();
-        noSuchQuestion();
+        Due.part(Due.Part.ORDINARY_USE);
+        ordinaryUse();
+        Due.part(Due.Part.EDGES);
         firstCell();
         firstRing();
         firstAndLastOfARing();
         roundTheRing();
         everyBoard();
-        Due.end();
+        Due.part(Due.Part.WRONG_NUMBERS);
+        noSuchCell();
+        noSuchQuestion();
+        Due.endOfPromise();
+    }
+
+    private static void ordinaryUse() {
+        FarBoards x = Edges.on(8, 2);
+        row("7 in RING 1", x, 5, 1, 1, 0, Due.NONE, 4, 8);
+        // CELL 1 has 9, 10, 11 as OWN ones and shares 12 with 2; CELL 2 has 13, 14, 15.
+        row("7 the second OWN one of 2", x, 14, 2, 1, 2, Due.NONE, 5, 3);
+        row("7 SHARED by 5 and 6", x, 28, 2, 2, 5, 6, 19, 4);
     }
 
     /** "BAD" */

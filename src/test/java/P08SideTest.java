@@ -3,8 +3,9 @@ public final class P08SideTest {
     private static final int N = Due.NONE;
 
     public static void main(String[] args) {
-        noSuchCell();
-        noSuchSide();
+        Due.part(Due.Part.ORDINARY_USE);
+        ordinaryUse();
+        Due.part(Due.Part.EDGES);
         roundTheFirst();
         lastOfTheFirstRing();
         firstAndLastOfARing();
@@ -12,7 +13,18 @@ public final class P08SideTest {
         edges();
         ringNoughtAlone();
         everyBoard();
-        Due.end();
+        Due.part(Due.Part.WRONG_NUMBERS);
+        noSuchCell();
+        noSuchSide();
+        Due.endOfPromise();
+    }
+
+    private static void ordinaryUse() {
+        FarBoards x = Edges.on(8, 2);
+        // CELL 5 shares 24 with 4, has 25, 26, 27 as OWN ones, and shares 28 with 6.
+        row("8 in RING 1", x, 5, 0, 6, 28, 27, 26, 25, 24, 4);
+        row("8 an OWN one of 2", x, 14, 2, 15, N, N, N, N, N, 13);
+        row("8 SHARED by 5 and 6", x, 28, 5, 6, 29, N, N, N, N, 27);
     }
 
     /** "BAD: CELL" */

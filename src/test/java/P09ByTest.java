@@ -1,12 +1,26 @@
 /** Promise 9, by. */
 public final class P09ByTest {
     public static void main(String[] args) {
-        noSuchCell();
+        Due.part(Due.Part.ORDINARY_USE);
+        ordinaryUse();
+        Due.part(Due.Part.EDGES);
         firstAndLastSide();
         noneWhereItIsNot();
         ringNoughtAlone();
         everyPair();
-        Due.end();
+        Due.part(Due.Part.WRONG_NUMBERS);
+        noSuchCell();
+        Due.endOfPromise();
+    }
+
+    private static void ordinaryUse() {
+        FarBoards x = Edges.on(8, 2);
+        Due.due("9 its last CHILD", x.by(5, 28), 2);
+        Due.due("9 its first PARENT", x.by(28, 5), 0);
+        Due.due("9 its other PARENT", x.by(28, 6), 1);
+        Due.due("9 the other PARENT's first CHILD", x.by(6, 28), 6);
+        Due.due("9 the one ahead", x.by(5, 4), 7);
+        Due.due("9 not side by side", x.by(5, 14), Due.NONE);
     }
 
     /** "BAD", the one and the other. */

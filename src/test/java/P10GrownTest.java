@@ -5,15 +5,25 @@ public final class P10GrownTest {
     private static final BigInteger MODULUS = BigInteger.valueOf(1000000007L);
 
     public static void main(String[] args) {
-        noSuchSides();
-        noSuchRing();
-        noSuchQuestion();
+        Due.part(Due.Part.ORDINARY_USE);
+        ordinaryUse();
+        Due.part(Due.Part.EDGES);
         ringNought();
         firstRing();
         everyRing();
         acrossTheModulus();
         whateverIsBuilt();
-        Due.end();
+        Due.part(Due.Part.WRONG_NUMBERS);
+        noSuchSides();
+        noSuchRing();
+        noSuchQuestion();
+        Due.endOfPromise();
+    }
+
+    private static void ordinaryUse() {
+        row("10 RING 2", 8, 2, 32, 8, 24, 41);
+        // 24 LONE ones have 3 OWN ones each, 8 PAIRED ones 2 each, and each of the 32 shares one.
+        row("10 RING 3", 8, 3, 120, 32, 88, 161);
     }
 
     /** "BAD: p (6 to 10)" */

@@ -1,14 +1,29 @@
 /** Promise 11, far. */
 public final class P11FarTest {
     public static void main(String[] args) {
-        noSuchCell();
-        noSuchQuestion();
+        Due.part(Due.Part.ORDINARY_USE);
+        ordinaryUse();
+        Due.part(Due.Part.EDGES);
         toItself();
         acrossTheBoard();
         roundTheRing();
         ringNoughtAlone();
         everyPair();
-        Due.end();
+        noCountReachesTheModulus();
+        Due.part(Due.Part.WRONG_NUMBERS);
+        noSuchCell();
+        noSuchQuestion();
+        Due.endOfPromise();
+    }
+
+    private static void ordinaryUse() {
+        FarBoards x = new FarBoards();
+        Due.due("11 over CELL 0", x.far(2, 5, 0), 2);
+        Due.due("11 and no other way", x.far(2, 5, 1), 1);
+        Due.due("11 over CELL 0 or CELL 2", x.far(1, 3, 1), 2);
+        Due.due("11 from RING 2", x.far(8, 3, 0), 3);
+        Due.due("11 over 1, then 0 or 2", x.far(8, 3, 1), 2);
+        Due.due("11 and back", x.far(3, 8, 0), 3);
     }
 
     /** "BAD" */
@@ -80,6 +95,20 @@ public final class P11FarTest {
                     Due.due("11 WAYS" + of, x.far(a, b, 1), m.far(a, b, 1));
                 }
             }
+        }
+    }
+
+    /** "modulo 1000000007": no board has so many WAYS; the most are of ten steps, five this way and five that way. */
+    private static void noCountReachesTheModulus() {
+        for (int[] board : Edges.BOARDS) {
+            int most = 0;
+            for (int a = 0; a < board[2]; a += board[2] > 100 ? 7 : 1) {
+                FarBoards x = Edges.on(board[0], board[1]);
+                for (int b = 0; b < board[2]; b++) most = Math.max(most, x.far(a, b, 1));
+            }
+            String on = " on " + board[0] + "/" + board[1];
+            Due.holds("11 " + most + " WAYS" + on, most >= 1 && most <= 252);
+            if (board[0] == 6 && board[1] == 5) Due.due("11 the most WAYS" + on, most, 252);
         }
     }
 }

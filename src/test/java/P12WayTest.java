@@ -1,14 +1,27 @@
 /** Promise 12, way. */
 public final class P12WayTest {
     public static void main(String[] args) {
-        noSuchCell();
-        belowNoSteps();
+        Due.part(Due.Part.ORDINARY_USE);
+        ordinaryUse();
+        Due.part(Due.Part.EDGES);
         noStepsAndAllOfThem();
         notSoMany();
         leastSideFirst();
         ringNoughtAlone();
         everyPair();
-        Due.end();
+        Due.part(Due.Part.WRONG_NUMBERS);
+        noSuchCell();
+        belowNoSteps();
+        Due.endOfPromise();
+    }
+
+    private static void ordinaryUse() {
+        FarBoards x = new FarBoards();
+        // CELL 1 has 0 at side 0 and 2 at side 1: both lead to 3.
+        int[] want = {8, 1, 0, 3, Due.NONE};
+        for (int i = 0; i < want.length; i++) Due.due("12 from 8 to 3, " + i, x.way(8, 3, i), want[i]);
+        int[] other = {10, 2, 3, Due.NONE};
+        for (int i = 0; i < other.length; i++) Due.due("12 from 10 to 3, " + i, x.way(10, 3, i), other[i]);
     }
 
     /** "BAD: CELLS" */

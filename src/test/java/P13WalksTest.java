@@ -6,12 +6,25 @@ public final class P13WalksTest {
     private static final BigInteger MODULUS = BigInteger.valueOf(1000000007L);
 
     public static void main(String[] args) {
-        noSuchCell();
-        noSuchSteps();
+        Due.part(Due.Part.ORDINARY_USE);
+        ordinaryUse();
+        Due.part(Due.Part.EDGES);
         noSteps();
         ringNoughtAlone();
         acrossTheModulus();
-        Due.end();
+        Due.part(Due.Part.WRONG_NUMBERS);
+        noSuchCell();
+        noSuchSteps();
+        Due.endOfPromise();
+    }
+
+    private static void ordinaryUse() {
+        FarBoards x = new FarBoards();
+        Due.due("13 to one beside and back", x.walks(0, 0, 2), 7);
+        Due.due("13 over 2 or 7", x.walks(0, 1, 2), 2);
+        // From 1 over 0, 2, 7, 10, 9, 8 and 28, and then two steps to 0.
+        Due.due("13 three steps", x.walks(1, 0, 3), 7 + 2 + 2 + 2 + 1 + 1 + 2);
+        Due.due("13 too few steps", x.walks(8, 20, 3), 0);
     }
 
     /** "BAD: CELLS" */

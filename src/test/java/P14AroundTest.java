@@ -1,12 +1,24 @@
 /** Promise 14, around: FAR 0 to 20. */
 public final class P14AroundTest {
     public static void main(String[] args) {
-        noSuchCell();
-        notSoFar();
+        Due.part(Due.Part.ORDINARY_USE);
+        ordinaryUse();
+        Due.part(Due.Part.EDGES);
         itselfAndTheFarthest();
         ringNoughtAlone();
         allTogether();
-        Due.end();
+        Due.part(Due.Part.WRONG_NUMBERS);
+        noSuchCell();
+        notSoFar();
+        Due.endOfPromise();
+    }
+
+    private static void ordinaryUse() {
+        FarBoards x = new FarBoards();
+        Due.due("14 round CELL 0", x.around(0, 1), 7);
+        Due.due("14 RING 2", x.around(0, 2), 21);
+        Due.due("14 beside 10: 1, 2, 9, 11", x.around(10, 1), 4);
+        Due.due("14 then 0, 3, 7, 8, 12, 13, 28", x.around(10, 2), 7);
     }
 
     /** "BAD" */

@@ -1,12 +1,28 @@
 /** Promise 15, put. */
 public final class P15PutTest {
     public static void main(String[] args) {
-        noSuchCell();
-        noSuchSide();
+        Due.part(Due.Part.ORDINARY_USE);
+        ordinaryUse();
+        Due.part(Due.Part.EDGES);
         everyLastCellAndSide();
         countsAnew();
         ringNoughtAlone();
-        Due.end();
+        Due.part(Due.Part.WRONG_NUMBERS);
+        noSuchCell();
+        noSuchSide();
+        Due.endOfPromise();
+    }
+
+    private static void ordinaryUse() {
+        FarBoards x = new FarBoards();
+        Due.due("15 put", x.put(10, 2), 1);
+        Due.due("15 at CELL 10", x.mouse(0), 10);
+        Due.due("15 turned to side 2", x.mouse(1), 2);
+        Due.runText(x, "f");
+        Due.due("15 over that side to the CELL behind 10", x.mouse(0), 11);
+        Due.due("15 put again", x.put(2, 1), 1);
+        Due.due("15 at CELL 2", x.mouse(0), 2);
+        Due.due("15 turned to side 1", x.mouse(1), 1);
     }
 
     /** "BAD" */

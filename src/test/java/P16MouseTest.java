@@ -1,7 +1,9 @@
 /** Promise 16, mouse, and THE MOUSE of the Terms: sides that go round, EDGES, BUMPS. */
 public final class P16MouseTest {
     public static void main(String[] args) {
-        noSuchQuestion();
+        Due.part(Due.Part.ORDINARY_USE);
+        ordinaryUse();
+        Due.part(Due.Part.EDGES);
         asByPutAtFirst();
         leftAndRightGoRound();
         backGoesRound();
@@ -9,7 +11,24 @@ public final class P16MouseTest {
         bumpsAtAnEdge();
         bumpsAreNoSteps();
         ringNoughtAlone();
-        Due.end();
+        Due.part(Due.Part.WRONG_NUMBERS);
+        noSuchQuestion();
+        Due.endOfPromise();
+    }
+
+    private static void ordinaryUse() {
+        FarBoards x = new FarBoards();
+        x.put(0, 2);
+        Due.runText(x, "f");
+        at("16 over side 2 of CELL 0", x, 6, 3, 0, 1);
+        Due.runText(x, "r");
+        at("16 RIGHT", x, 6, 4, 0, 1);
+        Due.runText(x, "f");
+        at("16 to the first OWN one of 6", x, 23, 3, 0, 2);
+        Due.runText(x, "f");
+        at("16 at an EDGE", x, 23, 3, 1, 2);
+        Due.runText(x, "bl");
+        at("16 BACK, LEFT", x, 23, 5, 1, 2);
     }
 
     /** "BAD." */

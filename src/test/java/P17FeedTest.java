@@ -3,15 +3,29 @@ public final class P17FeedTest {
     private static final long BLANKS = 0x2020_2020_2020_2020L;
 
     public static void main(String[] args) {
-        noSuchNumberOfBytes();
+        Due.part(Due.Part.ORDINARY_USE);
+        ordinaryUse();
+        Due.part(Due.Part.EDGES);
         fromOneByteToEight();
         highestFirst();
         onlyTheLowest();
         upToTheEnd();
+        againWhenEmpty();
+        Due.part(Due.Part.WRONG_NUMBERS);
+        noSuchNumberOfBytes();
         fullByEach();
         refusalsInOrder();
-        againWhenEmpty();
-        Due.end();
+        Due.endOfPromise();
+    }
+
+    private static void ordinaryUse() {
+        FarBoards x = new FarBoards();
+        Due.due("17 f", x.feed('f', 1), 1);
+        Due.due("17 l, r", x.feed('l' << 8 | 'r', 2), 3);
+        Due.due("17 on the tape", x.count(8), 3);
+        Due.due("17 three acts", x.run(), 3);
+        Due.due("17 one step", x.mouse(0), 1);
+        Due.due("17 on an empty tape", x.feed('b', 1), 1);
     }
 
     /** "BAD: n" */

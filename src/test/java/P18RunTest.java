@@ -1,23 +1,38 @@
 /** Promise 18, run, and the TEXTS of the Terms: FAULTS and SPENT. */
 public final class P18RunTest {
     public static void main(String[] args) {
+        Due.part(Due.Part.ORDINARY_USE);
+        ordinaryUse();
+        Due.part(Due.Part.EDGES);
         tapeWithNoBytes();
         tapeOfAllBytes();
         everyByteAlone();
         everyNumber();
+        bracketsFourDeep();
+        asOftenAsTheNumberSays();
+        upToTwoThousand();
+        Due.part(Due.Part.WRONG_NUMBERS);
         moreThanTwoFigures();
         numberBehindNumber();
         numberAheadOfNothing();
-        bracketsFourDeep();
         fifthBracket();
         bracketsThatDoNotMeet();
         theEnd();
         firstTokenThatHasOne();
-        asOftenAsTheNumberSays();
-        upToTwoThousand();
         moreThanTwoThousand();
         nothingIsDone();
-        Due.end();
+        Due.endOfPromise();
+    }
+
+    private static void ordinaryUse() {
+        FarBoards x = new FarBoards();
+        // To 1 by its side 0, turned to 3, LEFT to 2; to 10 by its side 0, turned to 3, LEFT to 2; RIGHT to 3.
+        Due.due("18 five acts", Due.runText(x, "2(fl)r"), 5);
+        Due.due("18 at CELL 10", x.mouse(0), 10);
+        Due.due("18 turned to side 3", x.mouse(1), 3);
+        Due.due("18 two steps", x.mouse(3), 2);
+        Due.due("18 the tape is empty", x.count(8), 0);
+        Due.due("18 nothing more to do", x.run(), 0);
     }
 
     private static void tapeWithNoBytes() {

@@ -1,11 +1,25 @@
 /** Promise 19, fault. */
 public final class P19FaultTest {
     public static void main(String[] args) {
+        Due.part(Due.Part.ORDINARY_USE);
+        ordinaryUse();
+        Due.part(Due.Part.EDGES);
         noughtBeforeOne();
         eachNumber();
         theLatestOne();
+        Due.part(Due.Part.WRONG_NUMBERS);
         whatIsNoFault();
-        Due.end();
+        Due.endOfPromise();
+    }
+
+    private static void ordinaryUse() {
+        FarBoards x = new FarBoards();
+        Due.runText(x, "3x");
+        Due.due("19 a letter that is none", x.fault(), 1);
+        Due.runText(x, "f 30l");
+        Due.due("19 a NUMBER above 20", x.fault(), 2);
+        Due.runText(x, "fl");
+        Due.due("19 behind a text without one", x.fault(), 2);
     }
 
     /** "0 before one" */

@@ -1,12 +1,26 @@
 /** Promise 20, paint: colours 0 to 3, or NONE. */
 public final class P20PaintTest {
     public static void main(String[] args) {
-        noSuchCell();
-        noSuchColour();
+        Due.part(Due.Part.ORDINARY_USE);
+        ordinaryUse();
+        Due.part(Due.Part.EDGES);
         everyColour();
         noughtAtFirst();
         ringNoughtAlone();
-        Due.end();
+        Due.part(Due.Part.WRONG_NUMBERS);
+        noSuchCell();
+        noSuchColour();
+        Due.endOfPromise();
+    }
+
+    private static void ordinaryUse() {
+        FarBoards x = new FarBoards();
+        Due.due("20 colour 2", x.paint(4, 2), 0);
+        Due.due("20 another CELL", x.paint(20, 1), 0);
+        Due.due("20 colour 3", x.paint(4, 3), 2);
+        Due.due("20 rubbed out", x.paint(4, Due.NONE), 3);
+        Due.due("20 colour 1", x.paint(4, 1), Due.NONE);
+        Due.due("20 the other one's", x.paint(20, 1), 1);
     }
 
     /** "BAD." */

@@ -3,6 +3,13 @@ public final class P21PaintsTest {
     private static final int MOST = Integer.MAX_VALUE, LEAST = Integer.MIN_VALUE;
 
     public static void main(String[] args) {
+        Due.part(Due.Part.ORDINARY_USE);
+        ordinaryUse();
+        Due.part(Due.Part.EDGES);
+        onlyTheItemsThatAreTaken();
+        upToTheLastOne();
+        statusOfABadItem();
+        Due.part(Due.Part.WRONG_NUMBERS);
         noSuchCell();
         tooFewOrTooMany();
         noSuchSheet();
@@ -10,12 +17,18 @@ public final class P21PaintsTest {
         noSuchPlace();
         noItemsAtAll();
         notAColour();
-        onlyTheItemsThatAreTaken();
-        upToTheLastOne();
         sumsThatLeaveInt();
         refusalsInOrder();
-        statusOfABadItem();
-        Due.end();
+        Due.endOfPromise();
+    }
+
+    private static void ordinaryUse() {
+        FarBoards x = new FarBoards();
+        x.sheet(6, 0, 5);
+        for (int i = 0; i < 5; i++) x.set(6, i, i % 4);
+        Due.due("21 three CELLS", x.paints(10, 6, 1, 3), 3);
+        int[] want = {0, 1, 2, 3, 0};
+        for (int c = 9; c <= 13; c++) Due.due("21 colour of " + c, x.paint(c, 0), want[c - 9]);
     }
 
     /** "BAD: CELL" */

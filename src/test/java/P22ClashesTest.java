@@ -1,13 +1,28 @@
 /** Promise 22, clashes. */
 public final class P22ClashesTest {
     public static void main(String[] args) {
+        Due.part(Due.Part.ORDINARY_USE);
+        ordinaryUse();
+        Due.part(Due.Part.EDGES);
         ringNoughtAlone();
         allAlike();
         allRubbedOut();
         rubbedOnesAreNotCounted();
         roundTheRing();
         firstAndLastColour();
-        Due.end();
+        Due.part(Due.Part.WRONG_NUMBERS);
+        badColoursChangeNone();
+        Due.endOfPromise();
+    }
+
+    private static void ordinaryUse() {
+        FarBoards x = Edges.on(6, 1);
+        for (int c = 1; c <= 6; c++) x.paint(c, 1 + c % 2);
+        Due.due("22 no two alike", x.clashes(), 0);
+        x.paint(2, 2);
+        Due.due("22 1 and 2, 2 and 3", x.clashes(), 2);
+        x.paint(0, 2);
+        Due.due("22 CELL 0 with 1, 2, 3, 5, too", x.clashes(), 6);
     }
 
     private static void ringNoughtAlone() {
@@ -71,5 +86,18 @@ public final class P22ClashesTest {
             x.paint(0, (v + 1) % 4);
             Due.due("22 the RING of colour " + v, x.clashes(), 10);
         }
+    }
+
+    /** clashes() takes no numbers: wrong ones that paint() and paints() refuse change none of them. */
+    private static void badColoursChangeNone() {
+        FarBoards x = new FarBoards();
+        x.sheet(0, 0, 2);
+        x.set(0, 0, 1);
+        x.set(0, 1, 4);
+        Due.due("22 no colour", x.paint(0, 4), Due.BAD);
+        Due.due("22 no CELL", x.paint(29, 1), Due.BAD);
+        Due.due("22 an ITEM that is no colour, behind one that is", x.paints(0, 0, 0, 2), Due.BAD);
+        Due.due("22 no such place", x.paints(0, 0, 2, 1), Due.PLACE_FOUND);
+        Due.due("22 all alike still", x.clashes(), 63);
     }
 }

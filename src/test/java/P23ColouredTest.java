@@ -1,15 +1,29 @@
 /** Promise 23, coloured: the first 1 to 16 CELLS, 1 to 4 colours. */
 public final class P23ColouredTest {
     public static void main(String[] args) {
-        noSuchNumberOfCells();
-        moreThanThereAre();
-        noSuchNumberOfColours();
+        Due.part(Due.Part.ORDINARY_USE);
+        ordinaryUse();
+        Due.part(Due.Part.EDGES);
         oneCell();
         noWayAtAll();
         wheels();
         colouredOrNotTheBoard();
         everyBoard();
-        Due.end();
+        Due.part(Due.Part.WRONG_NUMBERS);
+        noSuchNumberOfCells();
+        moreThanThereAre();
+        noSuchNumberOfColours();
+        Due.endOfPromise();
+    }
+
+    private static void ordinaryUse() {
+        FarBoards x = new FarBoards();
+        // CELL 1 is beside 0; 2 beside 0 and 1; 3 beside 0 and 2.
+        Due.due("23 four CELLS of four colours", x.coloured(4, 4), 4 * 3 * 2 * 2);
+        Due.due("23 four CELLS of three colours", x.coloured(4, 3), 3 * 2);
+        Due.due("23 four CELLS of two colours", x.coloured(4, 2), 0);
+        // CELL 8 is beside 1 alone, 9 beside 1 and 8.
+        Due.due("23 ten CELLS of four colours", x.coloured(10, 4), 504 * 3 * 2);
     }
 
     /** "BAD: m": the first m CELLS (1 to 16). */

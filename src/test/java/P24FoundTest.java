@@ -1,15 +1,25 @@
 /** Promise 24, found. */
 public final class P24FoundTest {
     public static void main(String[] args) {
+        Due.part(Due.Part.ORDINARY_USE);
+        ordinaryUse();
+        Due.part(Due.Part.EDGES);
+        noneAtAll();
+        noneLeavesNothing();
+        firstAsARow();
+        everyBoard();
+        Due.part(Due.Part.WRONG_NUMBERS);
         noSuchNumberOfCells();
         noSuchNumberOfColours();
         noSuchCell();
-        noneAtAll();
-        noneLeavesNothing();
         badAheadOfNone();
-        firstAsARow();
-        everyBoard();
-        Due.end();
+        Due.endOfPromise();
+    }
+
+    private static void ordinaryUse() {
+        FarBoards x = new FarBoards();
+        row(x, 4, 4, 0, 1, 2, 1);
+        row(x, 10, 4, 0, 1, 2, 1, 2, 1, 2, 3, 0, 2);
     }
 
     /** "BAD: m" */

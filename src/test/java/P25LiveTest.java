@@ -1,12 +1,26 @@
 /** Promise 25, live. */
 public final class P25LiveTest {
     public static void main(String[] args) {
-        noSuchCell();
-        neitherOneNorNought();
+        Due.part(Due.Part.ORDINARY_USE);
+        ordinaryUse();
+        Due.part(Due.Part.EDGES);
         whatItWas();
         noneAtFirst();
         ringNoughtAlone();
-        Due.end();
+        Due.part(Due.Part.WRONG_NUMBERS);
+        noSuchCell();
+        neitherOneNorNought();
+        Due.endOfPromise();
+    }
+
+    private static void ordinaryUse() {
+        FarBoards x = new FarBoards();
+        Due.due("25 CELL 3", x.live(3, 1), 0);
+        Due.due("25 CELL 12", x.live(12, 1), 0);
+        Due.due("25 two live", x.count(7), 2);
+        Due.due("25 CELL 3 no more", x.live(3, 0), 1);
+        Due.due("25 one lives", x.count(7), 1);
+        Due.due("25 CELL 12 still", x.live(12, 1), 1);
     }
 
     /** "BAD." */

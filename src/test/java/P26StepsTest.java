@@ -1,15 +1,29 @@
 /** Promise 26, steps: bits 0 to 10, 1 to 50 STEPS. */
 public final class P26StepsTest {
     public static void main(String[] args) {
-        noSuchRule();
-        noSuchNumberOfSteps();
+        Due.part(Due.Part.ORDINARY_USE);
+        ordinaryUse();
+        Due.part(Due.Part.EDGES);
         everyBit();
         noneAndAll();
         edgesDoNotLive();
         ringNoughtAlone();
         oneByOne();
         everyBoard();
-        Due.end();
+        Due.part(Due.Part.WRONG_NUMBERS);
+        noSuchRule();
+        noSuchNumberOfSteps();
+        Due.endOfPromise();
+    }
+
+    private static void ordinaryUse() {
+        FarBoards x = Edges.on(6, 1);
+        x.live(0, 1);
+        Due.due("26 born with one beside, none stays", x.steps(1 << 1, 0, 1), 6);
+        Due.due("26 CELL 0 does not live", x.living(0), 0);
+        Due.due("26 the RING stays, two beside each", x.steps(0, 1 << 2, 3), 6);
+        Due.due("26 CELL 0 is born with six beside", x.steps(1 << 6, 1 << 2, 1), 7);
+        Due.due("26 three beside each of the RING", x.steps(0, 1 << 3, 1), 6);
     }
 
     /** "BORN, STAY (0 to 2047)" */

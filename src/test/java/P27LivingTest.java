@@ -1,11 +1,24 @@
 /** Promise 27, living. */
 public final class P27LivingTest {
     public static void main(String[] args) {
-        noSuchRing();
+        Due.part(Due.Part.ORDINARY_USE);
+        ordinaryUse();
+        Due.part(Due.Part.EDGES);
         ofNoneInAll();
         firstAndLastOfEachRing();
         ringNoughtAlone();
-        Due.end();
+        Due.part(Due.Part.WRONG_NUMBERS);
+        noSuchRing();
+        Due.endOfPromise();
+    }
+
+    private static void ordinaryUse() {
+        FarBoards x = new FarBoards();
+        for (int c : new int[] {0, 3, 9, 20}) x.live(c, 1);
+        Due.due("27 RING 0", x.living(0), 1);
+        Due.due("27 RING 1", x.living(1), 1);
+        Due.due("27 RING 2", x.living(2), 2);
+        Due.due("27 in all", x.living(Due.NONE), 4);
     }
 
     /** "BAD": RINGS 0 to r are there. */

@@ -1,14 +1,26 @@
 /** Promise 28, turned: 0 to p - 1 p-th parts, round. */
 public final class P28TurnedTest {
     public static void main(String[] args) {
-        noSuchCell();
-        noSuchTurn();
+        Due.part(Due.Part.ORDINARY_USE);
+        ordinaryUse();
+        Due.part(Due.Part.EDGES);
         firstStays();
         byNothing();
         roundTheRing();
         ringNoughtAlone();
         everyBoard();
-        Due.end();
+        Due.part(Due.Part.WRONG_NUMBERS);
+        noSuchCell();
+        noSuchTurn();
+        Due.endOfPromise();
+    }
+
+    private static void ordinaryUse() {
+        FarBoards x = Edges.on(8, 2);
+        Due.due("28 three places on", x.turned(1, 3), 4);
+        // RING 2 is CELLS 9 to 40, four of them an eighth.
+        Due.due("28 twelve places on", x.turned(9, 3), 21);
+        Due.due("28 eight places on, round", x.turned(38, 2), 14);
     }
 
     /** "BAD." */

@@ -1,13 +1,30 @@
 /** Promise 29, alike. */
 public final class P29AlikeTest {
     public static void main(String[] args) {
-        noSuchTurn();
+        Due.part(Due.Part.ORDINARY_USE);
+        ordinaryUse();
+        Due.part(Due.Part.EDGES);
         byNothing();
         noneAndAllLive();
         oneCellOfEachRing();
         partsThatMeet();
         ringNoughtAlone();
-        Due.end();
+        Due.part(Due.Part.WRONG_NUMBERS);
+        noSuchTurn();
+        Due.endOfPromise();
+    }
+
+    private static void ordinaryUse() {
+        FarBoards x = Edges.on(8, 2);
+        x.live(1, 1);
+        x.live(5, 1);
+        Due.due("29 by a half", x.alike(4), 1);
+        Due.due("29 by a quarter", x.alike(2), 0);
+        x.live(3, 1);
+        Due.due("29 by a half no more", x.alike(4), 0);
+        x.live(7, 1);
+        Due.due("29 by a quarter then", x.alike(2), 1);
+        Due.due("29 by an eighth", x.alike(1), 0);
     }
 
     /** "BAD: t." */

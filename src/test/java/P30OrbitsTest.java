@@ -1,10 +1,21 @@
 /** Promise 30, orbits. */
 public final class P30OrbitsTest {
     public static void main(String[] args) {
-        noSuchRing();
+        Due.part(Due.Part.ORDINARY_USE);
+        ordinaryUse();
+        Due.part(Due.Part.EDGES);
         ringNought();
         everyRing();
-        Due.end();
+        Due.part(Due.Part.WRONG_NUMBERS);
+        noSuchRing();
+        Due.endOfPromise();
+    }
+
+    private static void ordinaryUse() {
+        FarBoards x = Edges.on(8, 2);
+        Due.due("30 CELL 0", x.orbits(0), 1);
+        Due.due("30 and RING 1", x.orbits(1), 2);
+        Due.due("30 and four sets of eight in RING 2", x.orbits(2), 6);
     }
 
     /** "BAD.": RINGS 0 to r are there. */

@@ -1,12 +1,25 @@
 /** Promise 31, kind: RIM, PAIRED, LONE, CELL, the first that fits. */
 public final class P31KindTest {
     public static void main(String[] args) {
-        noSuchCell();
+        Due.part(Due.Part.ORDINARY_USE);
+        ordinaryUse();
+        Due.part(Due.Part.EDGES);
         firstCellIsNoRim();
         outermostRing();
         insideOfIt();
         everyBoard();
-        Due.end();
+        Due.part(Due.Part.WRONG_NUMBERS);
+        noSuchCell();
+        Due.endOfPromise();
+    }
+
+    private static void ordinaryUse() {
+        FarBoards x = Edges.on(8, 3);
+        Due.due("31 CELL", x.kind(0), 0);
+        Due.due("31 LONE", x.kind(5), 1);
+        Due.due("31 LONE in RING 2", x.kind(14), 1);
+        Due.due("31 PAIRED", x.kind(12), 2);
+        Due.due("31 RIM", x.kind(41), 3);
     }
 
     /** "BAD." */

@@ -1,12 +1,27 @@
 /** Promise 32, as. */
 public final class P32AsTest {
     public static void main(String[] args) {
-        noSuchCell();
-        noSuchKind();
+        Due.part(Due.Part.ORDINARY_USE);
+        ordinaryUse();
+        Due.part(Due.Part.EDGES);
         eachIsACell();
         noSuchOne();
+        Due.part(Due.Part.WRONG_NUMBERS);
+        noSuchCell();
+        noSuchKind();
         badAheadOfKind();
-        Due.end();
+        Due.endOfPromise();
+    }
+
+    private static void ordinaryUse() {
+        FarBoards x = Edges.on(8, 3);
+        Due.due("32 LONE", x.as(5, 1), 1);
+        Due.due("32 PAIRED", x.as(12, 2), 2);
+        Due.due("32 PAIRED as a CELL", x.as(12, 0), 2);
+        Due.due("32 RIM", x.as(41, 3), 3);
+        Due.due("32 status()", x.status(), 0);
+        Due.due("32 PAIRED as LONE", x.as(12, 1), Due.KIND_FOUND);
+        Due.due("32 status() then", x.status(), 3);
     }
 
     private static void stage(FarBoards x) {

@@ -1,15 +1,29 @@
 /** Promise 33, ask. */
 public final class P33AskTest {
     public static void main(String[] args) {
-        noSuchCell();
-        noSuchAsk();
+        Due.part(Due.Part.ORDINARY_USE);
+        ordinaryUse();
+        Due.part(Due.Part.EDGES);
         firstCell();
         ringNoughtAlone();
         eachKind();
         rimOfTheFirstRing();
         traceIsEmptyAhead();
         everyBoard();
-        Due.end();
+        Due.part(Due.Part.WRONG_NUMBERS);
+        noSuchCell();
+        noSuchAsk();
+        Due.endOfPromise();
+    }
+
+    private static void ordinaryUse() {
+        FarBoards x = Edges.on(8, 3);
+        Due.due("33 SIZE of a LONE one: its RING and five CHILDREN", x.ask(5, 0), 1 + 5);
+        Due.due("33 MARK of a LONE one", x.ask(5, 1), 1005);
+        Due.due("33 SIZE of a PAIRED one: its RING and PARENTS 1 and 2", x.ask(12, 0), 2 + 1 + 2);
+        Due.due("33 MARK of a PAIRED one: its number and its SIZE", x.ask(12, 1), 12 + 5);
+        Due.due("33 MARK of a RIM one: twice its number", x.ask(41, 1), 82);
+        Due.due("33 SIZE of a RIM one: its RING less its MARK", x.ask(41, 0), 3 - 82);
     }
 
     /** "BAD.": THE TRACE stays, too. */

@@ -1,11 +1,25 @@
 /** Promise 34, trace. */
 public final class P34TraceTest {
     public static void main(String[] args) {
+        Due.part(Due.Part.ORDINARY_USE);
+        ordinaryUse();
+        Due.part(Due.Part.EDGES);
         noneBeforeAnAsk();
         firstAndLast();
-        noneBeyond();
         whatLeavesIt();
-        Due.end();
+        Due.part(Due.Part.WRONG_NUMBERS);
+        noneBeyond();
+        Due.endOfPromise();
+    }
+
+    private static void ordinaryUse() {
+        FarBoards x = Edges.on(8, 3);
+        x.ask(12, 1);
+        int[] want = {22, 20, 12, 10, Due.NONE};
+        for (int i = 0; i < want.length; i++) Due.due("34 MARK of a PAIRED one, " + i, x.trace(i), want[i]);
+        x.ask(5, 0);
+        int[] then = {11, 10, Due.NONE};
+        for (int i = 0; i < then.length; i++) Due.due("34 SIZE of a LONE one, " + i, x.trace(i), then[i]);
     }
 
     private static void noneBeforeAnAsk() {

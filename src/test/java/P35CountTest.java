@@ -1,13 +1,28 @@
 /** Promise 35, count. */
 public final class P35CountTest {
     public static void main(String[] args) {
-        noSuchQuestion();
+        Due.part(Due.Part.ORDINARY_USE);
+        ordinaryUse();
+        Due.part(Due.Part.EDGES);
         sheets();
         kindsAsTheyAreTold();
         ringNoughtAlone();
         thatLive();
         bytes();
-        Due.end();
+        Due.part(Due.Part.WRONG_NUMBERS);
+        noSuchQuestion();
+        Due.endOfPromise();
+    }
+
+    private static void ordinaryUse() {
+        FarBoards x = Edges.on(8, 3);
+        x.sheet(2, 0, 9);
+        x.live(17, 1);
+        x.live(160, 1);
+        x.feed(0x6666_66L, 3);
+        // LONE: RING 1 and 24 of RING 2; PAIRED: 8 of RING 2; RIM: all of RING 3.
+        int[] want = {1, 161, 3, 8, 8 + 24, 8, 120, 2, 3};
+        for (int what = 0; what <= 8; what++) Due.due("35 count(" + what + ")", x.count(what), want[what]);
     }
 
     /** "BAD." */

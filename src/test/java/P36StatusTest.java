@@ -1,13 +1,29 @@
 /** Promise 36, status. */
 public final class P36StatusTest {
     public static void main(String[] args) {
+        Due.part(Due.Part.ORDINARY_USE);
+        ordinaryUse();
+        Due.part(Due.Part.EDGES);
         noughtAtFirst();
         eachFinding();
-        badAndFullLeaveIt();
         callsWithoutASheetLeaveIt();
         callsThatFindNothing();
         theLatestOne();
-        Due.end();
+        Due.part(Due.Part.WRONG_NUMBERS);
+        badAndFullLeaveIt();
+        Due.endOfPromise();
+    }
+
+    private static void ordinaryUse() {
+        FarBoards x = new FarBoards();
+        x.set(0, 0, 0);
+        Due.due("36 a SHEET that is missing", x.status(), 1);
+        x.sheet(0, 0, 2);
+        Due.due("36 none", x.status(), 0);
+        x.set(0, 2, 0);
+        Due.due("36 no such place", x.status(), 2);
+        x.as(0, 0);
+        Due.due("36 none of as()", x.status(), 0);
     }
 
     /** "0: .. there was none" */

@@ -1,7 +1,12 @@
+import java.lang.reflect.Method;
+import java.lang.reflect.Modifier;
+import java.util.Arrays;
+
 /** "Terms": what refusals are, which goes ahead of which, and what they leave as it was. */
 public final class TermsTest {
-    public static void main(String[] args) {
+    public static void main(String[] args) throws ReflectiveOperationException {
         numbersOfRefusals();
+        noStateIsTold();
         numbersOfFindings();
         badAheadOfFull();
         badAheadOfFindings();
@@ -20,6 +25,25 @@ public final class TermsTest {
         Due.due("Terms NONE is answered", x.trace(0), FarBoards.NONE);
         Due.due("Terms BAD is answered", x.kind(29), FarBoards.BAD);
         Due.due("Terms FULL is answered", x.board(10, 3), FarBoards.FULL);
+    }
+
+    /** "STATE (as told)": no promise tells a case of it, so no call answers it, ordinary or refused. */
+    private static void noStateIsTold() throws ReflectiveOperationException {
+        int[] numbers = {Integer.MIN_VALUE, -1, 0, 1, 2, 5, 18, 19, 61, Integer.MAX_VALUE};
+        for (Method method : FarBoards.class.getDeclaredMethods()) {
+            if (!Modifier.isPublic(method.getModifiers())) continue;
+            FarBoards x = new FarBoards();
+            Twins.stage(x);
+            for (int k = 0; k < 300; k++) {
+                Object[] given = new Object[method.getParameterCount()];
+                for (int i = 0; i < given.length; i++) {
+                    int v = numbers[(k / (1 + 2 * i) + k * i) % numbers.length];
+                    given[i] = method.getParameterTypes()[i] == long.class ? (Object) (long) v : (Object) v;
+                }
+                boolean state = (Integer) method.invoke(x, given) == FarBoards.STATE;
+                Due.holds("Terms STATE of " + method.getName() + Arrays.toString(given), !state);
+            }
+        }
     }
 
     /** "-1000010 less 1 NULL .., 2 PLACE .., 3 KIND .., 4 SIZE .., 5 STORE" */
