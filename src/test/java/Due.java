@@ -16,7 +16,27 @@ final class Due {
     private static Part part = null;
     private static final Map<Part, Integer> SEEN_IN = new EnumMap<>(Part.class);
 
+    /** Far above what any test takes, on a slow machine, too. */
+    private static final int MOST_SECONDS = 600;
+
+    static {
+        Thread watch = new Thread(Due::endAnyway);
+        watch.setDaemon(true);
+        watch.start();
+    }
+
     private Due() {
+    }
+
+    /** A call that does not end must fail its test, and not keep .ci/run waiting. */
+    private static void endAnyway() {
+        try {
+            Thread.sleep(1000L * MOST_SECONDS);
+        } catch (InterruptedException ended) {
+            return;
+        }
+        System.out.println("a call did not end in " + MOST_SECONDS + " seconds");
+        Runtime.getRuntime().halt(1);
     }
 
     static void due(String what, long got, long want) {
