@@ -258,7 +258,7 @@ public final class FarBoards {
         if (!isCountable(m, k) || i < 0 || i >= m) {
             return BAD;
         }
-        return colours.findRow(m, k) ? colours.row[i] : NONE;
+        return colours.colourInFirstRow(m, k, i);
     }
 
     // ---- life
@@ -495,6 +495,9 @@ public final class FarBoards {
 
     /** THE BOARD: its CELLS, their PARENTS, and what is at each of their sides. */
     private static final class Ground {
+        /** In a plane there are fewer than three pairs side by side for each CELL, and each pair is listed twice. */
+        static final int MOST_BESIDE = 6 * MOST_CELLS;
+
         final int[] ringOf = new int[MOST_CELLS];
         final int[] firstParent = new int[MOST_CELLS];
         final int[] otherParent = new int[MOST_CELLS];
@@ -502,7 +505,11 @@ public final class FarBoards {
         final int[] ringStart = new int[MOST_RINGS + 2];
         /** The number that was next as the OWN ones of a CELL began: its SHARED ones lie about these. */
         private final int[] firstOwn = new int[MOST_CELLS];
-        private final int[] atSides = new int[MOST_CELLS * MOST_SIDES];
+        /** What is at the sides of CELL 0, in their order, then of CELL 1, and so on, EDGES left out. */
+        final int[] beside = new int[MOST_BESIDE];
+        /** Where that row begins for each CELL; one entry more, so that it ends where the next one's begins. */
+        final int[] besideStart = new int[MOST_CELLS + 1];
+        private int listed = 0;
         int sides = 0;
         int rings = 0;
         int cells = 0;
@@ -522,10 +529,12 @@ public final class FarBoards {
                 }
                 ringStart[ring + 1] = cells;
             }
-            layFirstSides();
-            for (int cell = 1; cell < cells; cell++) {
-                laySides(cell);
+            listed = 0;
+            for (int cell = 0; cell < cells; cell++) {
+                besideStart[cell] = listed;
+                listRound(cell);
             }
+            besideStart[cells] = listed;
         }
 
         boolean has(int cell) {
@@ -540,16 +549,22 @@ public final class FarBoards {
             return ring >= 0 && ring <= rings;
         }
 
-        /** The CELL at a side; NONE at an EDGE. Its own look at the index spares the inner loops two calls. */
+        /** The CELL at a side; NONE at an EDGE. EDGES lie ahead of the last side, where CHILDREN would be. */
         int beyond(int cell, int side) {
-            int index = cell * MOST_SIDES + side;
-            return index >= 0 && index < atSides.length ? atSides[index] : NONE;
+            int first = besideStart[cell];
+            int last = besideStart[cell + 1] - 1;
+            if (side < last - first) {
+                return beside[first + side];
+            }
+            return side == sides - 1 && first <= last ? beside[last] : NONE;
         }
 
         int sideTo(int cell, int other) {
-            for (int side = 0; side < sides; side++) {
-                if (beyond(cell, side) == other) {
-                    return side;
+            int first = besideStart[cell];
+            int last = besideStart[cell + 1] - 1;
+            for (int i = first; i <= last; i++) {
+                if (beside[i] == other) {
+                    return i < last ? i - first : sides - 1;
                 }
             }
             return NONE;
@@ -573,20 +588,13 @@ public final class FarBoards {
         }
 
         int besides(int cell) {
-            int there = 0;
-            for (int side = 0; side < sides; side++) {
-                there += beyond(cell, side) == NONE ? 0 : 1;
-            }
-            return there;
+            return besideStart[cell + 1] - besideStart[cell];
         }
 
         int childrenOf(int cell) {
             int children = 0;
-            for (int side = 0; side < sides; side++) {
-                int other = beyond(cell, side);
-                if (has(other) && ringOf[other] > ringOf[cell]) {
-                    children++;
-                }
+            for (int i = besideStart[cell]; i < besideStart[cell + 1]; i++) {
+                children += ringOf[beside[i]] > ringOf[cell] ? 1 : 0;
             }
             return children;
         }
@@ -669,33 +677,43 @@ public final class FarBoards {
             }
         }
 
-        private void laySide(int cell, int side, int other) {
-            if (hasSide(cell, side)) {
-                atSides[cell * MOST_SIDES + side] = other;
+        private void list(int other) {
+            if (listed < MOST_BESIDE) {
+                beside[listed] = other;
+                listed++;
             }
         }
 
-        private void layFirstSides() {
-            for (int side = 0; side < sides; side++) {
-                int other = side == 0 ? 1 : sides + 1 - side;
-                laySide(0, side, rings == 0 ? NONE : other);
+        private void listRound(int cell) {
+            if (cell == 0) {
+                listRoundTheFirst();
+                return;
+            }
+            list(firstParent[cell]);
+            if (parentsOf(cell) == 2) {
+                list(otherParent[cell]);
+            }
+            list(behind(cell));
+            if (ringOf[cell] < rings) {
+                listChildren(cell);
+            }
+            list(ahead(cell));
+        }
+
+        private void listRoundTheFirst() {
+            for (int side = 0; side < sides && rings > 0; side++) {
+                list(side == 0 ? 1 : sides + 1 - side);
             }
         }
 
-        private void laySides(int cell) {
-            int parents = parentsOf(cell);
-            laySide(cell, 0, firstParent[cell]);
-            if (parents == 2) {
-                laySide(cell, 1, otherParent[cell]);
+        /** The CHILDREN stand next to one another round their RING, so going ahead from the last one meets all. */
+        private void listChildren(int cell) {
+            int own = ownOf(cell);
+            int child = firstOwn[cell] + own;
+            for (int i = 0; i < own + 2; i++) {
+                list(child);
+                child = ahead(child);
             }
-            laySide(cell, parents, behind(cell));
-            // The CHILDREN stand next to one another round their RING, so going ahead from the last one meets all.
-            int child = ringOf[cell] < rings ? firstOwn[cell] + ownOf(cell) : NONE;
-            for (int side = parents + 1; side < sides - 1; side++) {
-                laySide(cell, side, child);
-                child = has(child) ? ahead(child) : NONE;
-            }
-            laySide(cell, sides - 1, ahead(cell));
         }
     }
 
@@ -762,11 +780,8 @@ public final class FarBoards {
 
         private int reachFrom(int cell, int reached) {
             int count = reached;
-            for (int side = 0; side < ground.sides; side++) {
-                int other = ground.beyond(cell, side);
-                if (!ground.has(other)) {
-                    continue;
-                }
+            for (int i = ground.besideStart[cell]; i < ground.besideStart[cell + 1]; i++) {
+                int other = ground.beside[i];
                 if (distance[other] == NONE && count < MOST_CELLS) {
                     distance[other] = distance[cell] + 1;
                     queue[count] = other;
@@ -781,9 +796,9 @@ public final class FarBoards {
 
         /** Over the side of the least number, one step nearer to where measure() began. */
         private int nearer(int cell) {
-            for (int side = 0; side < ground.sides; side++) {
-                int other = ground.beyond(cell, side);
-                if (ground.has(other) && distance[other] == distance[cell] - 1) {
+            for (int i = ground.besideStart[cell]; i < ground.besideStart[cell + 1]; i++) {
+                int other = ground.beside[i];
+                if (distance[other] == distance[cell] - 1) {
                     return other;
                 }
             }
@@ -792,9 +807,9 @@ public final class FarBoards {
 
         private int walksInto(int cell) {
             long sum = 0;
-            for (int side = 0; side < ground.sides; side++) {
-                int other = ground.beyond(cell, side);
-                sum += ground.has(other) ? walked[other] : 0;
+            int end = ground.besideStart[cell + 1];
+            for (int i = ground.besideStart[cell]; i < end; i++) {
+                sum += walked[ground.beside[i]];
             }
             return (int) (sum % MODULUS);
         }
@@ -1007,7 +1022,10 @@ public final class FarBoards {
     /** COLOURS of the CELLS, and rows of colours that differ side by side. */
     private static final class Colours {
         final int[] colourOf = new int[MOST_CELLS];
-        final int[] row = new int[MOST_COUNTED];
+        /** For each of the first CELLS a bit for each earlier one at its sides. */
+        private final int[] earlier = new int[MOST_COUNTED];
+        /** For each colour a bit for each of the first CELLS that has it, as far as they have been tried. */
+        private final int[] having = new int[MOST_COLOURS];
         private final Ground ground;
 
         Colours(Ground ground) {
@@ -1025,82 +1043,79 @@ public final class FarBoards {
         int countClashes() {
             int pairs = 0;
             for (int cell = 0; cell < ground.cells; cell++) {
-                for (int side = 0; side < ground.sides; side++) {
-                    int other = ground.beyond(cell, side);
-                    if (other > cell && ground.has(other) && clash(cell, other)) {
-                        pairs++;
-                    }
+                for (int i = ground.besideStart[cell]; i < ground.besideStart[cell + 1]; i++) {
+                    int other = ground.beside[i];
+                    pairs += other > cell && clash(cell, other) ? 1 : 0;
                 }
             }
             return pairs;
         }
 
         int countRows(int m, int k) {
-            return countFrom(ground, row, 0, m, k, 0);
+            prepare(m);
+            return countFrom(earlier, having, 0, m, k, 0);
         }
 
-        boolean findRow(int m, int k) {
-            return fillFrom(ground, row, 0, m, k);
+        /** The colour of a CELL in the first row; NONE if there is no row. */
+        int colourInFirstRow(int m, int k, int cell) {
+            prepare(m);
+            if (!fillFrom(earlier, having, 0, m, k)) {
+                return NONE;
+            }
+            int colour = 0;
+            while (colour < MOST_COLOURS - 1 && (having[colour] >> cell & 1) == 0) {
+                colour++;
+            }
+            return colour;
+        }
+
+        private void prepare(int m) {
+            Arrays.fill(having, 0);
+            for (int cell = 0; cell < m && cell < MOST_COUNTED; cell++) {
+                earlier[cell] = 0;
+                for (int i = ground.besideStart[cell]; i < ground.besideStart[cell + 1]; i++) {
+                    int other = ground.beside[i];
+                    earlier[cell] |= other < cell ? 1 << other : 0;
+                }
+            }
         }
 
         private boolean clash(int cell, int other) {
             return colourOf[cell] != NONE && colourOf[cell] == colourOf[other];
         }
 
-        /**
-         * Counts only rows in which each new colour is the least one that is free, and takes each of these for all
-         * the rows that it becomes with its colours changed for others: some twenty times fewer rows to go through.
-         */
-        private static int countFrom(Ground ground, int[] row, int cell, int m, int k, int used) {
+        /** Of the colours that no CELL has yet it tries the least one alone, and counts that for each of them. */
+        private static int countFrom(int[] earlier, int[] having, int cell, int m, int k, int used) {
             if (cell >= m || cell >= MOST_COUNTED) {
-                return choices(k, used);
+                return 1;
             }
-            int taken = takenBeside(ground, row, cell);
             int sum = 0;
             for (int v = 0; v <= used && v < k; v++) {
-                if ((taken >> v & 1) == 0) {
-                    row[cell] = v;
-                    sum += countFrom(ground, row, cell + 1, m, k, Math.max(used, v + 1));
+                if ((earlier[cell] & having[v]) == 0) {
+                    boolean fresh = v == used;
+                    having[v] += 1 << cell;
+                    int rows = countFrom(earlier, having, cell + 1, m, k, fresh ? used + 1 : used);
+                    having[v] -= 1 << cell;
+                    sum += fresh ? (k - used) * rows : rows;
                 }
             }
             return sum;
         }
 
-        private static boolean fillFrom(Ground ground, int[] row, int cell, int m, int k) {
+        private static boolean fillFrom(int[] earlier, int[] having, int cell, int m, int k) {
             if (cell >= m || cell >= MOST_COUNTED) {
                 return true;
             }
-            int taken = takenBeside(ground, row, cell);
             for (int v = 0; v < k; v++) {
-                if ((taken >> v & 1) == 0) {
-                    row[cell] = v;
-                    if (fillFrom(ground, row, cell + 1, m, k)) {
+                if ((earlier[cell] & having[v]) == 0) {
+                    having[v] += 1 << cell;
+                    if (fillFrom(earlier, having, cell + 1, m, k)) {
                         return true;
                     }
+                    having[v] -= 1 << cell;
                 }
             }
             return false;
-        }
-
-        /** In how many ways so many colours of k can be taken, one after another. */
-        private static int choices(int k, int used) {
-            int product = 1;
-            for (int i = 0; i < used; i++) {
-                product *= k - i;
-            }
-            return product;
-        }
-
-        /** A bit for each colour that an earlier CELL at a side has. */
-        private static int takenBeside(Ground ground, int[] row, int cell) {
-            int taken = 0;
-            for (int side = 0; side < ground.sides; side++) {
-                int other = ground.beyond(cell, side);
-                if (other >= 0 && other < cell) {
-                    taken |= 1 << row[other];
-                }
-            }
-            return taken;
         }
     }
 
@@ -1147,9 +1162,9 @@ public final class FarBoards {
 
         private int livingBeside(int cell) {
             int living = 0;
-            for (int side = 0; side < ground.sides; side++) {
-                int other = ground.beyond(cell, side);
-                living += ground.has(other) ? lives[other] : 0;
+            int end = ground.besideStart[cell + 1];
+            for (int i = ground.besideStart[cell]; i < end; i++) {
+                living += lives[ground.beside[i]];
             }
             return living;
         }
