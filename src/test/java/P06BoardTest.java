@@ -7,6 +7,7 @@ public final class P06BoardTest {
         howManyCells();
         asAtFirst();
         nothingIsLeftOver();
+        manyBoardsOneAfterAnother();
         ringNoughtAlone();
         Due.part(Due.Part.WRONG_NUMBERS);
         noSuchSides();
@@ -110,6 +111,26 @@ public final class P06BoardTest {
         x.board(6, 2);
         Due.due("6 an EDGE where there was a CELL", x.side(7, 4), Due.NONE);
         Due.due("6 no more than six SIDES", x.side(7, 6), Due.BAD);
+    }
+
+    /** "THE BOARD anew": the last of four hundred is as whole as the first one. */
+    private static void manyBoardsOneAfterAnother() {
+        for (int[] last : Edges.BOARDS) {
+            FarBoards x = new FarBoards();
+            for (int i = 0; i < 400; i++) {
+                int[] board = Edges.BOARDS[i % Edges.BOARDS.length];
+                x.board(board[0], board[1]);
+            }
+            Model m = new Model();
+            m.board(last[0], last[1]);
+            Due.due("6 behind 400 others", x.board(last[0], last[1]), last[2]);
+            String on = " on " + last[0] + "/" + last[1];
+            Due.due("6 pairs side by side" + on, x.clashes(), m.clashes());
+            Due.due("6 from the first CELL to the last" + on, x.far(0, last[2] - 1, 0), last[1]);
+            for (int c : new int[] {0, last[2] / 2, last[2] - 1}) {
+                for (int s = 0; s < last[0]; s++) Due.due("6 side " + s + " of " + c + on, x.side(c, s), m.side(c, s));
+            }
+        }
     }
 
     private static void ringNoughtAlone() {
